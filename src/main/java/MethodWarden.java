@@ -605,7 +605,6 @@ public final class MethodWarden {
             first[part] = one;
             second[part] = two;
             third[part] = three;
-            number[part] = 0;
             size++;
             return part;
         }
@@ -1077,14 +1076,12 @@ public final class MethodWarden {
         /** The answer is good until the next expression is worked out. */
         Value workOut(Expression whole) {
             expression = whole;
-            looking = false;
             return valueOf(whole.size - 1, whole.size);
         }
 
         /** Leaves the items for which the expression is true; false when it is no TRUTH for one. */
         boolean filter(Expression whole, Items items) {
             expression = whole;
-            looking = false;
             // The expression may look at these very items, so they change only at the end.
             boolean sifted = sift(whole.size - 1, whole.size, items, kept);
             if (sifted) {

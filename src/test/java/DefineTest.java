@@ -14,6 +14,7 @@ public final class DefineTest {
         faultsAtATokenThatCannotStandThere(due);
         parts(due);
         brackets(due);
+        earlierTextsLeaveNothingBehind(due);
         due.finish();
     }
 
@@ -306,10 +307,29 @@ public final class DefineTest {
     private static void brackets(Due due) {
         good(due, Write.repeated("(", 23) + "a" + Write.repeated(")", 23));
         good(due, Write.repeated("(", 23) + "me" + Write.repeated(")", 23));
+        // As many tokens as a text can have.
+        good(due, "-" + Write.repeated("(", 23) + "a" + Write.repeated(")", 23));
         fault(due, Write.repeated("(", 48), 48);
         fault(due, Write.repeated("(", 24) + "a" + Write.repeated(")", 23), 48);
         fault(due, Write.repeated("(", 23) + "a" + Write.repeated(")", 24), 47);
         good(due, Write.repeated("list[", 7) + "1" + Write.repeated("]", 7));
         good(due, Write.repeated("role(", 7) + "1" + Write.repeated(")", 7));
+    }
+
+    private static void earlierTextsLeaveNothingBehind(Due due) {
+        MethodWarden warden = new MethodWarden();
+        due.same("a text with an ending", Write.define(warden, 0, "list.?[true]"), -1);
+        due.same("the ending's bracket is gone", Write.define(warden, 0, "list.?"), 5);
+        due.same("so is its sign", Write.define(warden, 0, "list."), 5);
+        due.same("an L is gone too", Write.define(warden, 1, "1L"), -1);
+        due.same("an L is gone too", Write.define(warden, 1, "1"), -1);
+        due.same("an L is gone too", warden.ask(1, 0, 0), Write.INT);
+        for (int k = 0; k < 25; k++) {
+            due.same("good, time " + k, Write.define(warden, 0, "1+2"), -1);
+            due.same("with a fault, time " + k, Write.define(warden, 1, "(1*(a a"), 6);
+        }
+        due.same("and good again", Write.define(warden, 0, "1+2*3-4"), -1);
+        warden.ask(0, 0, 0);
+        due.same("its value", warden.asked(), 3);
     }
 }

@@ -17,6 +17,7 @@ public final class ExpressionTest {
         test.lists();
         test.endings();
         test.roles();
+        test.twentyParts();
         test.errorsGoThrough();
         test.due.finish();
     }
@@ -245,6 +246,9 @@ public final class ExpressionTest {
         is("1 + (null ?: 5)", Write.INT, 6);
         is("(true ? 1 : 2) + 10", Write.INT, 11);
         is("true ? 1 : 2 + 10", Write.INT, 1);
+        no("true ? false : true | true");
+        no("false ?: true | true");
+        yes("(false ?: true) | true");
     }
 
     private void lists() {
@@ -329,6 +333,15 @@ public final class ExpressionTest {
         due.same("role of nobody", nobody.asked(), 0);
         due.same("a wrong role of nobody", Write.sort(nobody, "role(null)", 0, 0), Write.ERROR);
         due.same("me is nobody", Write.sort(nobody, "me", 0, 0), Write.NOTHING);
+    }
+
+    private void twentyParts() {
+        is(Write.repeated("-", 19) + "a", Write.INT, -7);
+        is(Write.repeated("a+", 9) + "-a", Write.INT, 56);
+        is(Write.repeated("a-(", 9) + "-a" + Write.repeated(")", 9), Write.INT, 14);
+        yes(Write.repeated("false|", 6) + Write.repeated("!", 6) + "true");
+        is("list" + Write.repeated(".?[it>a-7]", 3) + ".size", Write.INT, 3);
+        is("list.^[list.^[list.^[list.^[it>9]!=1]==3]==3]", Write.INT, 3);
     }
 
     private void errorsGoThrough() {

@@ -49,6 +49,7 @@ public final class SeniorTest {
         due.yes("1 includes 3 through 2, not directly", warden.senior(1, 3));
         due.no("now directly", warden.senior(1, 3));
         due.yes("two may include the same", warden.senior(0, 3));
+        due.no("an earlier one is still direct", warden.senior(1, 2));
     }
 
     private static void reachesThroughOthersWhateverTheOrder(Due due) {

@@ -4,6 +4,7 @@ public final class TargetTest {
         Due due = new Due("TargetTest");
         refusesWrongArguments(due);
         givesBackAsSaid(due);
+        raisesAFullList(due);
         callsOtherMethods(due);
         extraRolesAreThereWhileItWorks(due);
         makesAnotherUser(due);
@@ -61,6 +62,19 @@ public final class TargetTest {
         due.same("as it is", warden.itemAt(0), 1);
         due.same("as it is", warden.itemAt(1), Integer.MAX_VALUE);
         due.same("as it is", warden.number(), 2);
+    }
+
+    private static void raisesAFullList(Due due) {
+        MethodWarden warden = new MethodWarden();
+        for (int k = 0; k < 5; k++) {
+            warden.add(k);
+        }
+        warden.target(0, 2, -10, 0);
+        warden.call(0, 0, 0);
+        due.same("items", warden.number(), 5);
+        for (int k = 0; k < 5; k++) {
+            due.same("item " + k, warden.itemAt(k), k - 10);
+        }
     }
 
     private static void callsOtherMethods(Due due) {
