@@ -1478,7 +1478,7 @@ public final class MethodWarden {
         }
 
         /** A call within as many others as depth says, which is below MOST_OPEN_CALLS; its END. */
-        int run(int m, int depth) {
+        private int run(int m, int depth) {
             Method method = methods[m];
             int user = context.user;
             int roles = context.roles;

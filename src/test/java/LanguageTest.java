@@ -177,7 +177,7 @@ public final class LanguageTest {
         MethodWarden warden = new MethodWarden();
         use(warden);
         allocated();
-        int runs = 200;
+        int runs = 1000;
         long before = allocated();
         for (int k = 0; k < runs; k++) {
             use(warden);
