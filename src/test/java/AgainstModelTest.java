@@ -86,7 +86,10 @@ public final class AgainstModelTest {
 
     private void same(String call, long got, long want) {
         calls++;
-        due.same("run " + run + ", call " + calls + ": " + call, got, want);
+        // What an object answers after its last promised call is free.
+        if (calls <= CALLS) {
+            due.same("run " + run + ", call " + calls + ": " + call, got, want);
+        }
     }
 
     private void same(String call, boolean got, boolean want) {
