@@ -1,12 +1,13 @@
 /**
- * Promises 3, 17 and 18 for every text of few tokens, written with and without spaces between them:
- * its FAULT or what it is worth, compared with the plain model.
+ * Promises 3, 17 and 18 for every text of at most four of the tokens below, with and without spaces
+ * between them: its FAULT or what it is worth, compared with the plain model.
  */
 public final class ShortTextsTest {
     private static final int MOST_TOKENS = 4;
-    private static final String[] TOKENS = {"1", "2L", "true", "null", "me", "a", "it", "ret", "list", "role", "size",
-        "(", ")", "[", "]", ":", "?", "|", "&", "<", "==", "!=", "+", "-", "*", "/", "%", "!", ".", "?:", "?.", ".?[",
-        ".^[", ".$[", "=", "x", "2147483648"};
+    /** All words and signs; numbers, and what is WRONG, by some of each sort. */
+    private static final String[] TOKENS = {"1", "2L", "true", "false", "null", "me", "a", "b", "it", "ret", "list",
+        "role", "size", "(", ")", "[", "]", ":", "?", "|", "&", "<", ">", "+", "-", "*", "/", "%", "!", ".", "==", "!=",
+        "<=", ">=", "?:", "?.", ".?[", ".^[", ".$[", "=", "x", "2147483648"};
 
     private final Due due = new Due("ShortTextsTest");
 
